@@ -8,6 +8,7 @@ public final class CommandsTest {
         transactionsAreDoneInOrder();
         sixAreKept();
         transactionsOfTheirSession();
+        subscriptionsOfTheirSession();
         Check.end();
     }
 
@@ -211,6 +212,14 @@ public final class CommandsTest {
                 Check.due("sixteen bytes are kept", desk.item(k % 3, k / 3, i), k);
             }
         }
+    }
+
+    private static void subscriptionsOfTheirSession() {
+        BrokerDesk desk = Wire.opened(2);
+        Wire.tell(desk, 1, 1, 0, 0, 1, 1);
+        Wire.tell(desk, 0, 2, 4);
+        Check.due("4 is not the next session's first one", desk.session(0, 3), 8);
+        Check.due("which is there still", desk.subscription(1, 0, 0), 0);
     }
 
     private static void transactionsOfTheirSession() {

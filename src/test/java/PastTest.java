@@ -114,6 +114,7 @@ public final class PastTest {
     private static void faults() {
         for (int b = 160; b < 256; b++) {
             dueFault("b " + b, 7, b, 0, 0);
+            dueFault("b " + b + " behind others", 7, 0, 9, b, 0);
         }
         dueFault("a byte is missing", 7, 1, 9);
         dueFault("all bytes are missing", 7, 0);

@@ -14,6 +14,7 @@ public final class QueuesTest {
         noRoomToComeBack();
         endsWithTries();
         othersTags();
+        manyItems();
         firstBlocks();
         queuesInOrder();
         readyCounts();
@@ -53,6 +54,9 @@ public final class QueuesTest {
         }
         // Subscription 3 of session 0 is the one before the first of session 1.
         Check.due("subscription -1 of 1", desk.subscription(1, -1, 0), -1);
+        desk.open(1);
+        subscribe(desk, 1, 0, 1, 2, 4);
+        Check.due("subscription 4 of 0", desk.subscription(0, 4, 0), -1);
         for (int wrong : new int[] {-1, 6, Integer.MIN_VALUE, Integer.MAX_VALUE}) {
             Check.due("place " + wrong, desk.place(wrong, 0), -1);
             Check.due("ready " + wrong, desk.ready(wrong, 1), -1);
@@ -255,6 +259,8 @@ public final class QueuesTest {
         Wire.tell(desk, 0, 2, 0);
         dueItems("it has no tries of that one", desk, 0, 11);
         Check.due("its tries", desk.place(0, 4), 0);
+        send(desk, 1, 1, 12);
+        Check.due("nor has a new one", desk.place(1, 4), 0);
     }
 
     private static void noRoomToComeBack() {
@@ -314,6 +320,38 @@ public final class QueuesTest {
         Wire.tell(desk, 1, 4, 0, 0);
         Check.due("its own", desk.subscription(1, 0, 3), 0);
         Check.due("the other one's 0 stays", desk.subscription(0, 0, 4), 0);
+        send(desk, 0, 2, 6);
+        Check.due("held", desk.subscription(1, 0, 4), 1);
+        Wire.tell(desk, 0, 4, 1, 0);
+        Check.due("none of this session has 1", desk.subscription(1, 0, 4), 1);
+    }
+
+    /**
+     * More items go than can ever be there at once, by each way that they can go.
+     * Some of these ways take more than 512 calls: no item may be left behind even so.
+     */
+    private static void manyItems() {
+        for (int way = 0; way < 4; way++) {
+            BrokerDesk desk = Wire.opened(1);
+            subscribe(desk, 0, 0, 2, way == 0 ? 0 : 1, 1);
+            for (int k = 0; k < 120; k++) {
+                send(desk, 0, 2, k);
+                int tag = desk.session(0, 5) - 1;
+                if (way == 1) {
+                    Wire.tell(desk, 0, 4, tag, 0);
+                }
+                for (int tries = 0; way == 2 && tries < 3; tries++) {
+                    Wire.tell(desk, 0, 5, tag + tries & 255, 0);
+                }
+                if (way == 3 && k < 110) {
+                    Check.due("way 3: wait", desk.place(2, 0), Math.min(8, k));
+                }
+                Wire.drain(desk, 0);
+            }
+            int given = way == 2 ? 360 : way == 3 ? 1 : 120;
+            Check.due("way " + way + ": given", desk.place(2, 1), given);
+            Check.due("way " + way + ": lost", desk.place(2, 2), way == 2 ? 120 : way == 3 ? 111 : 0);
+        }
     }
 
     private static void firstBlocks() {

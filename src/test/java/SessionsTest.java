@@ -169,5 +169,11 @@ public final class SessionsTest {
         Check.due("the item is there once", desk.place(0, 0), 1);
         Check.due("is shut", desk.session(0, 0), BrokerDesk.SHUT);
         Check.due("opens again", desk.open(0), true);
+        Wire.feed(desk, 0, 2);
+        Check.due("fault", desk.session(0, 3), 2);
+        desk.shut(0);
+        Check.due("shut: no fault", desk.session(0, 3), 0);
+        desk.open(0);
+        Check.due("opened: no fault", desk.session(0, 3), 0);
     }
 }
