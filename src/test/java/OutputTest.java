@@ -31,13 +31,11 @@ public final class OutputTest {
     }
 
     private static void wholeRow() {
-        BrokerDesk desk = Wire.opened(4);
         for (int session = 0; session < 4; session++) {
-            for (int k = 0; k < 20; k++) {
-                Wire.feed(desk, session, Wire.frame(137, Wire.fill(10, 10 * session + k)));
+            BrokerDesk desk = Wire.opened(4);
+            for (int k = 0; k < 80; k++) {
+                Wire.feed(desk, k % 4, Wire.frame(137, Wire.fill(10, 10 * (k % 4) + k / 4)));
             }
-        }
-        for (int session = 0; session < 4; session++) {
             Check.due("240 bytes", desk.session(session, 1), 240);
             Wire.feed(desk, session, Wire.frame(137));
             Check.due("no more", desk.session(session, 1), 240);
