@@ -249,6 +249,7 @@ public final class CommandEdgesTest {
         }
     }
 
+    /** "all that was to be done in it is done": of one in which nothing was to be done, nothing. */
     private static void emptyTransactions() {
         for (int op = 7; op <= 8; op++) {
             BrokerDesk desk = Wire.opened(1);
@@ -339,6 +340,7 @@ public final class CommandEdgesTest {
         Check.due("it is OPEN", desk.session(0, 0), BrokerDesk.OPEN);
     }
 
+    /** "3, 4, 5 with an x above 0 are kept until 7": then, and with 8, there is room for others. */
     private static void roomForKeptAgain() {
         for (int op = 7; op <= 8; op++) {
             BrokerDesk desk = keeping(6);

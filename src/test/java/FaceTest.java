@@ -5,7 +5,9 @@ import java.lang.reflect.Modifier;
 import java.nio.file.Files;
 import java.nio.file.Path;
 import java.util.List;
+import java.util.Map;
 import java.util.Set;
+import java.util.TreeMap;
 import java.util.TreeSet;
 import java.util.regex.Matcher;
 import java.util.regex.Pattern;
@@ -22,7 +24,9 @@ public final class FaceTest {
         constants();
         methods();
         fields();
-        words();
+        String source = sourceWithoutComments();
+        words(source);
+        calls(source);
         Check.end();
     }
 
@@ -75,9 +79,12 @@ public final class FaceTest {
         Check.due("at most forty fields", count <= 40, true);
     }
 
-    private static void words() throws IOException {
+    private static String sourceWithoutComments() throws IOException {
         String source = Files.readString(Path.of("src/main/java/BrokerDesk.java"));
-        source = Pattern.compile("/\\*.*?\\*/|//[^\\n]*", Pattern.DOTALL).matcher(source).replaceAll("");
+        return Pattern.compile("/\\*.*?\\*/|//[^\\n]*", Pattern.DOTALL).matcher(source).replaceAll("");
+    }
+
+    private static void words(String source) {
         Matcher found = Pattern.compile("\\b(import|package|throw|throws|try|catch|finally|synchronized|assert"
             + "|instanceof|float|double|String|Math|Integer|Long|System|Arrays|Object|null|var|enum|record"
             + "|interface|protected|this)\\b|->|::|\"").matcher(source);
@@ -87,8 +94,60 @@ public final class FaceTest {
         // Arrays are made in the fields' initialisers alone, with a constant as their length.
         Matcher made = Pattern.compile("([^\\n]*)\\bnew\\b([^\\n]*)").matcher(source);
         while (made.find()) {
-            Check.due("made: " + made.group(),
-                made.group().matches("    private final (int|boolean)\\[\\] \\w+ = new (int|boolean)\\[[A-Z_]+\\];"), true);
+            String right = "    private final (int|boolean)\\[\\] \\w+ = new (int|boolean)\\[[A-Z_]+\\];";
+            Check.due("made: " + made.group(), made.group().matches(right), true);
         }
+    }
+
+    /** LANGUAGE.md 8 and 10: methods of some sixty lines, no call inside another one's arguments, six deep. */
+    private static void calls(String source) {
+        Map<String, String> bodies = new TreeMap<>();
+        Matcher method = Pattern.compile("\n    (?:public|private) (?:\\w+ )?(\\w+)\\([^)]*\\) \\{\n(.*?)\n    \\}",
+            Pattern.DOTALL).matcher(source);
+        while (method.find()) {
+            bodies.put(method.group(1), method.group(2));
+            Check.due(method.group(1) + " has at most sixty lines", method.group(2).split("\n").length <= 60, true);
+        }
+        Check.due("as many as there are", bodies.size(), BrokerDesk.class.getDeclaredMethods().length + 1);
+        Map<String, Set<String>> called = new TreeMap<>();
+        for (Map.Entry<String, String> one : bodies.entrySet()) {
+            Set<String> names = new TreeSet<>();
+            Matcher call = Pattern.compile("\\b(\\w+)\\(").matcher(one.getValue());
+            while (call.find()) {
+                if (bodies.containsKey(call.group(1))) {
+                    names.add(call.group(1));
+                    Check.due(one.getKey() + ": a call in the arguments of " + call.group(1),
+                        hasCall(one.getValue(), call.end()), false);
+                }
+            }
+            called.put(one.getKey(), names);
+        }
+        for (String name : called.keySet()) {
+            Check.due(name + " goes at most six deep", depth(name, called, 1) <= 6, true);
+        }
+    }
+
+    /** Is there a call before the parenthesis that was opened just before is closed? */
+    private static boolean hasCall(String body, int from) {
+        int open = 1;
+        for (int at = from; at < body.length() && open > 0; at++) {
+            char c = body.charAt(at);
+            if (c == '(' && Character.isJavaIdentifierPart(body.charAt(at - 1))) {
+                return true;
+            }
+            open += c == '(' ? 1 : c == ')' ? -1 : 0;
+        }
+        return false;
+    }
+
+    /** Seven is deep enough to be wrong, and so is recursion. */
+    private static int depth(String name, Map<String, Set<String>> called, int at) {
+        int deepest = at;
+        for (String next : called.get(name)) {
+            if (at <= 6) {
+                deepest = Math.max(deepest, depth(next, called, at + 1));
+            }
+        }
+        return deepest;
     }
 }

@@ -4,6 +4,7 @@ public final class FrameEdgesTest {
 
     public static void main(String[] args) {
         bytesTo255();
+        oneToEightBytes();
         noneOfThese();
         zeroNeedsAPart();
         oneNeedsNone();
@@ -65,6 +66,29 @@ public final class FrameEdgesTest {
         BrokerDesk desk = Wire.opened(1);
         Wire.feed(desk, 0, Wire.frame(137, Wire.fill(12, 255)));
         Check.due("seven bytes of 255", desk.take(0, 2) == 138 + 12 * 256 ? desk.take(0, 7) : -2, 0xFF_FFFF_FFFF_FFFFL);
+    }
+
+    /** "n (1..8) bytes, the lowest one of the long first" */
+    private static void oneToEightBytes() {
+        int[] row = Wire.join(Wire.frame(1, 3, 2), Wire.frame(137, 200, 201), Wire.frame(128, 0, 1, 128, 255));
+        for (int n = 1; n <= 8; n++) {
+            BrokerDesk desk = Wire.opened(1);
+            int at = 0;
+            while (at < row.length) {
+                int count = Math.min(n, row.length - at);
+                // What stands above the n-th byte of the long would be wrong at any place.
+                long bytes = count == 8 ? 0 : -1L << (8 * count);
+                for (int k = 0; k < count; k++) {
+                    bytes |= (long) row[at + k] << (8 * k);
+                }
+                Check.due(count + " bytes at " + at, desk.feed(0, bytes, count), count);
+                at += count;
+            }
+            Wire.dueOutput("by " + n, desk, 0, 138, 2, 200, 201);
+            Wire.duePast("by " + n, desk, 0, 3, 2, 0, 1, 128, 255);
+            Check.due("by " + n + ": the last byte", desk.item(2, 0, 2), 255);
+            Check.due("by " + n + ": and no more", desk.item(2, 0, 3), -1);
+        }
     }
 
     /** "2 if o is none of these" */

@@ -413,6 +413,7 @@ public final class HoldingEdgesTest {
         Check.due("TRIES stay", desk.place(0, 4), 2);
     }
 
+    /** "(so that 8 alone matter)": with each way to end. */
     private static void endsWithEight() {
         for (int waiting = 6; waiting <= 8; waiting++) {
             for (int way = 0; way < 3; way++) {
@@ -453,6 +454,7 @@ public final class HoldingEdgesTest {
         }
     }
 
+    /** "A FAULT c: a FRAME 8 with the byte c is written, and the SESSION ENDS.": each FAULT, and 8 without one. */
     private static void everyWayToEnd() {
         int[][] ways = {{2}, {129, 1}, {129, 254, 0, 201}, Wire.frame(193, 255), Wire.frame(129, 10),
             Wire.frame(136, 1)};

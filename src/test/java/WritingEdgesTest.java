@@ -55,6 +55,7 @@ public final class WritingEdgesTest {
         }
     }
 
+    /** "8 with a FRAME 8 and the same data, and the SESSION ENDS": it ENDS without room for it as well. */
     private static void closingNeedsRoom() {
         for (int n = 0; n <= 16; n++) {
             for (int less = 0; less <= 1; less++) {
@@ -112,6 +113,7 @@ public final class WritingEdgesTest {
         }
     }
 
+    /** "one for which there is no room is not written": not even as much of it as there is room for. */
     private static void nothingIsWrittenInPart() {
         for (int room = 0; room < 18; room++) {
             BrokerDesk without = Wire.opened(1);
@@ -127,6 +129,7 @@ public final class WritingEdgesTest {
         }
     }
 
+    /** "one for which there is no room is not written": nor does it wait, or keep others from being written. */
     private static void shorterOnesAreWrittenStill() {
         BrokerDesk desk = Wire.opened(1);
         Wire.fillOutput(desk, 0, 10);
