@@ -62,7 +62,7 @@ public final class CommandEdgesTest {
         return op == 6 ? 3 : op == 7 || op == 8 ? 0 : 2;
     }
 
-    /** Byte k of a right COMMAND has each value in turn. */
+    /** "FAULT 8 if a byte is not as said": byte k of a right COMMAND has each value in turn. */
     private static void dueByte(int k, IntPredicate right, int... command) {
         for (int b = 0; b < 256; b++) {
             int[] other = command.clone();
@@ -189,7 +189,7 @@ public final class CommandEdgesTest {
         Check.due("the longest message", desk.session(0, 3), 8);
     }
 
-    /** "s, which is not there", "s, which is there" */
+    /** "SUBSCRIPTIONS 0..3, each there or not", "s, which is not there", "s, which is there" */
     private static void subscriptionsThereOrNot() {
         for (int s = 0; s < 4; s++) {
             BrokerDesk desk = Wire.opened(1);
