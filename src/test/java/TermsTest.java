@@ -1,6 +1,7 @@
 /**
- * What the document says before its promises, from its first line on: a method for each sentence, in their
- * order, with an ordinary case. The bounds that a sentence names are in the tests on edges.
+ * What the document says before its promises, from its first line on: each sentence, in their order, above a
+ * method with an ordinary case. The bounds that a sentence names are in the tests on edges, and the limit of
+ * 512 calls is in LimitTest.
  */
 public final class TermsTest {
     public static void main(String[] args) {
