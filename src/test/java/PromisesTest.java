@@ -1,5 +1,6 @@
 /**
- * The promises 1 to 14, from the first one on: all of their words, each above a method with an ordinary case. The bounds that a promise names are in the tests on edges.
+ * The promises 1 to 14, from the first one on: all of their words, each above a method with an ordinary case.
+ * The bounds that a promise names are in the tests on edges.
  */
 public final class PromisesTest {
     private static final int[] NO_SESSIONS = {-1, 4, Integer.MIN_VALUE, Integer.MAX_VALUE};
